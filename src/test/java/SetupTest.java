@@ -15,6 +15,7 @@ public final class SetupTest {
         promise5Arbiter();
         promise6Mask();
         promise6RowsFollowTheClock();
+        promise6All32RowsAreUsed();
         promise7Free();
         check.end();
     }
@@ -209,6 +210,20 @@ public final class SetupTest {
         }
         check.due("drained of 0", drained0, 3);
         check.due("drained of 1", drained1, 3);
+    }
+
+    private static void promise6All32RowsAreUsed() {
+        CreditWire x = new CreditWire();
+        x.link(1, 1, 1, 16);
+        for (int i = 0; i < 32; i++) {
+            x.mask(i == 31 ? 1 : 0);
+        }
+        x.offer(0);
+        x.offer(0);
+        check.due("run(31) with closed rows", x.run(31), 0);
+        check.due("run(1) with row 31", x.run(1), 1);
+        check.due("run(31) round again", x.run(31), 0);
+        check.due("run(1) with row 31 again", x.run(1), 1);
     }
 
     private static void promise7Free() {
