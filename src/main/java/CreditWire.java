@@ -205,7 +205,7 @@ public final class CreditWire {
         }
     }
 
-    /** All that a call of link makes anew: the CHANNELS, the wire, the PACKETS and the CLOCK. */
+    /** All that a call of link makes anew, so that nothing of the LINK before can stay in it. */
     private static final class Link {
         final int wire;
         final int back;
@@ -362,27 +362,23 @@ public final class CreditWire {
         }
 
         private int chooseChannel() {
-            switch (arbiter) {
-                case LEAST:
-                    return firstAbleFrom(0);
-                case WHOLE:
-                    return chooseWhole();
-                default:
-                    return chooseByTurns();
+            if (arbiter == LEAST) {
+                return firstAbleFrom(0);
             }
-        }
-
-        private int chooseByTurns() {
+            Channel begun = arbiter == WHOLE ? firstInsidePacket() : null;
+            if (begun != null) {
+                return begun.isAble() ? begun.number : NONE;
+            }
             return firstAbleFrom(lastSender + 1);
         }
 
-        private int chooseWhole() {
+        private Channel firstInsidePacket() {
             for (Channel channel : channels) {
                 if (channel.isInsidePacket()) {
-                    return channel.isAble() ? channel.number : NONE;
+                    return channel;
                 }
             }
-            return chooseByTurns();
+            return null;
         }
 
         private int firstAbleFrom(int start) {
