@@ -1,11 +1,21 @@
 /** Counts and prints the calls whose answer is not the one that is due. */
 final class Check {
+    private static final int MOST_SHOWN = 20;
+
     private final String test;
     private int calls = 0;
     private int wrong = 0;
+    private int shown = 0;
+    private String about = "";
 
     Check(String test) {
         this.test = test;
+    }
+
+    /** What the answers from now on belong to; it is told with each that is wrong. */
+    void about(String text) {
+        about = text.isEmpty() ? "" : text + ": ";
+        shown = 0;
     }
 
     void due(String call, long got, long want) {
@@ -18,8 +28,23 @@ final class Check {
     void dueText(String call, String got, String want) {
         calls++;
         if (!got.equals(want)) {
-            report(call + " answered " + got + ", due is " + want);
+            int from = Math.max(0, firstDifference(got, want) - 40);
+            report(call + " answered " + cut(got, from) + ", due is " + cut(want, from));
         }
+    }
+
+    private static int firstDifference(String a, String b) {
+        int i = 0;
+        while (i < a.length() && i < b.length() && a.charAt(i) == b.charAt(i)) {
+            i++;
+        }
+        return i;
+    }
+
+    /** The part of a long text that is worth reading. */
+    private static String cut(String text, int from) {
+        String rest = text.substring(Math.min(from, text.length()));
+        return (from > 0 ? ".." : "") + (rest.length() > 100 ? rest.substring(0, 100) + ".." : rest);
     }
 
     /** The very class that the document names is due, not one above or below it. */
@@ -40,8 +65,16 @@ final class Check {
         dueThrow(call, IllegalArgumentException.class, body);
     }
 
+    void dueIllegalState(String call, Runnable body) {
+        dueThrow(call, IllegalStateException.class, body);
+    }
+
     void dueUnsupported(String call, Runnable body) {
         dueThrow(call, UnsupportedOperationException.class, body);
+    }
+
+    int calls() {
+        return calls;
     }
 
     int wrongs() {
@@ -50,8 +83,9 @@ final class Check {
 
     private void report(String text) {
         wrong++;
-        if (wrong <= 50) {
-            System.out.println(test + ": " + text);
+        shown++;
+        if (shown <= MOST_SHOWN) {
+            System.out.println(test + ": " + about + text);
         }
     }
 

@@ -3,7 +3,6 @@ import java.util.Random;
 /** Long runs of random calls (of fixed seeds), each answer held beside that of the Model. */
 public final class ModelTest {
     private static final Check check = new Check("ModelTest");
-    private static final int CALLS = 512;
     private static final int[] ODD = {-1, 0, 1, 2, 3, 7, 8, 15, 16, 17, 31, 32, 60, 61, 249, 250, 251,
         5000, 5001, Integer.MAX_VALUE, Integer.MIN_VALUE, Integer.MAX_VALUE - 1,
         Integer.MIN_VALUE + 1};
@@ -13,7 +12,7 @@ public final class ModelTest {
     }
 
     private final Random random;
-    private final CreditWire x = new CreditWire();
+    private final Tested x = new Tested();
     private final Model m = new Model();
     // How likely a wrong argument is, of 100, and how many of the calls are views.
     private final int odd;
@@ -42,13 +41,13 @@ public final class ModelTest {
         if (random.nextInt(10) != 0) {
             newLink();
         }
-        for (int i = 1; i < CALLS && check.wrongs() == 0; i++) {
+        while (x.callsLeft() > 0 && check.wrongs() == 0) {
             if (random.nextInt(100) < views) {
                 view();
             } else {
                 act();
             }
-            if (i % 64 == 0) {
+            if (x.callsLeft() % 64 == 0 && x.callsLeft() > 0) {
                 allViews();
             }
         }
@@ -145,24 +144,26 @@ public final class ModelTest {
     private void allViews() {
         for (int what = -1; what <= 13; what++) {
             int w = what;
-            same("count(" + w + ")", () -> x.count(w), () -> m.count(w));
+            same("count(" + w + ")", () -> x.aside().count(w), () -> m.count(w));
             for (int v = -1; v <= m.channels; v++) {
                 int c = v;
-                same("look(" + c + ", " + w + ")", () -> x.look(c, w), () -> m.look(c, w));
+                same("look(" + c + ", " + w + ")", () -> x.aside().look(c, w), () -> m.look(c, w));
             }
         }
         for (int i = -1; i <= 17; i++) {
             int at = i;
             for (int what = -1; what <= 4; what++) {
                 int w = what;
-                same("wire(" + at + ", " + w + ")", () -> x.wire(at, w), () -> m.wire(at, w));
+                same("wire(" + at + ", " + w + ")", () -> x.aside().wire(at, w),
+                        () -> m.wire(at, w));
             }
             for (int v = -1; v <= m.channels; v++) {
                 int c = v;
-                same("back(" + c + ", " + at + ")", () -> x.back(c, at), () -> m.back(c, at));
-                same("buffer(" + c + ", " + at + ", 1)", () -> x.buffer(c, at, 1),
+                same("back(" + c + ", " + at + ")", () -> x.aside().back(c, at),
+                        () -> m.back(c, at));
+                same("buffer(" + c + ", " + at + ", 1)", () -> x.aside().buffer(c, at, 1),
                         () -> m.buffer(c, at, 1));
-                same("buffer(" + c + ", " + at + ", 2)", () -> x.buffer(c, at, 2),
+                same("buffer(" + c + ", " + at + ", 2)", () -> x.aside().buffer(c, at, 2),
                         () -> m.buffer(c, at, 2));
             }
         }
@@ -170,15 +171,16 @@ public final class ModelTest {
             int p = k;
             for (int what = 0; what <= 8; what++) {
                 int w = what;
-                same("packet(" + p + ", " + w + ")", () -> x.packet(p, w), () -> m.packet(p, w));
+                same("packet(" + p + ", " + w + ")", () -> x.aside().packet(p, w),
+                        () -> m.packet(p, w));
             }
         }
         for (int i = -1; i <= 60; i++) {
             int at = i;
-            same("answer(" + at + ")", () -> x.answer(at), () -> m.answer(at));
+            same("answer(" + at + ")", () -> x.aside().answer(at), () -> m.answer(at));
         }
-        check.due("count(11), always 0", x.count(11), 0);
-        check.due("count(12), always 0", x.count(12), 0);
+        check.due("count(11), always 0", x.aside().count(11), 0);
+        check.due("count(12), always 0", x.aside().count(12), 0);
     }
 
     private int arg(int least, int most) {
