@@ -165,9 +165,10 @@ final class ArbiterEdges {
     private void least() {
         Tested x = wide(8, LEAST);
         for (int v = 7; v >= 0; v--) {
-            Steps.offer(x, v, v % 2 == 0 ? 8 : 4);
+            Steps.offer(x, v, v % 2 == 0 ? 16 : 4);
         }
-        check.dueText("from 0 on", Steps.senders(x, 13), "0 0 1 2 2 3 4 4 5 6 6 7 -");
+        check.dueText("from 0 on", Steps.senders(x, 21),
+                "0 0 0 0 1 2 2 2 2 3 4 4 4 4 5 6 6 6 6 7 -");
         x.offer(7);
         x.offer(3);
         check.dueText("behind 7", Steps.senders(x, 1), "3");

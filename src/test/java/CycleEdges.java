@@ -94,7 +94,7 @@ final class CycleEdges {
             x.run(2);
             x.offer(0);
             // Sent in CYCLES 0 and 2, none in 1 and from 3 on.
-            for (int t = 2; t < 24; t++) {
+            for (int t = 2; t < 2 + 3 * 16; t++) {
                 x.run(1);
                 check.due("FLITS in the BUFFER behind CYCLE " + t + ", WIRE " + wire,
                         x.look(0, 5), since(t, wire) + since(t, wire + 2));

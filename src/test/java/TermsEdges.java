@@ -37,6 +37,7 @@ final class TermsEdges {
             refusedCallsChangeNothing("new", Tested::new);
             refusedCallsChangeNothing("busy", Steps::busy);
             refusedCallsChangeNothing("full", TermsEdges::allIsFull);
+            refusedCallsChangeNothing("with a long tape", TermsEdges::withALongTape);
             refusedOfferChangesTheTapeAlone("new", Tested::new, 4);
             refusedOfferChangesTheTapeAlone("full, CHANNEL 2", Steps::full, 2);
             refusedOfferChangesTheTapeAlone("full, CHANNEL 0", Steps::full, 0);
@@ -295,6 +296,12 @@ final class TermsEdges {
         return x;
     }
 
+    private static Tested withALongTape() {
+        Tested x = new Tested();
+        Steps.feed(x, 50);
+        return x;
+    }
+
     /** The twin is spared the refused calls; neither now nor later may the two differ. */
     private void refusedCallsChangeNothing(String name, Supplier<Tested> maker) {
         Tested x = maker.get();
@@ -389,29 +396,55 @@ final class TermsEdges {
         check.dueUnsupported("offer(1) behind 250", () -> x.offer(1));
     }
 
-    /** Two objects, each used between the calls of the other, and the same ones alone. */
+    /** The objects themselves, without copies aside: a copy would write into what they share. */
     private void memoryIsItsOwn() {
-        Tested x = new Tested();
-        Tested y = new Tested();
-        Tested alone = new Tested();
-        y.link(8, 16, 16, 16);
-        for (int i = 0; i < 30; i++) {
-            useOnce(x, i);
-            y.mask(i);
-            y.weight(i % 8, 15);
-            y.arbiter(i % 4);
-            y.feed(16, -1L, -1L);
-            y.offer(i % 8);
-            y.run(7);
-            y.take(i % 8);
-            useOnce(alone, i);
-            check.dueText("views behind use " + i, Views.all(x), Views.all(alone));
-        }
+        CreditWire x = new CreditWire();
+        CreditWire y = new CreditWire();
+        tapesAreTheirOwn(x, y);
+        linksAreTheirOwn(x, y);
+        answersAreTheirOwn(x, y);
+        new CreditWire();
+        check.due("CLOCK behind a third object", x.count(0), 6);
+        check.due("PACKETS behind a third object", y.count(6), 1);
+        check.due("answer(3) behind a third object", x.answer(3), 4);
     }
 
-    private static void useOnce(Tested x, int i) {
-        Steps.offer(x, i % 4, i);
-        x.run(2);
-        x.take(i % 3);
+    private void tapesAreTheirOwn(CreditWire x, CreditWire y) {
+        check.due("x.feed", x.feed(3, 0x030201, 0), 3);
+        check.due("y.feed", y.feed(2, 0x0908, 0), 2);
+        check.due("x.feed", x.feed(1, 4, 0), 4);
+        check.due("x.offer", x.offer(0), 0);
+        check.due("y.count(7)", y.count(7), 2);
+        check.due("y.count(6)", y.count(6), 0);
+    }
+
+    private void linksAreTheirOwn(CreditWire x, CreditWire y) {
+        y.link(8, 16, 16, 16);
+        y.mask(0);
+        y.weight(0, 15);
+        y.arbiter(3);
+        check.due("CHANNELS of x", x.count(1), 4);
+        check.due("WIRE of x", x.count(2), 3);
+        check.due("rows of x", x.count(5), 0);
+        check.due("WEIGHT of x", x.look(0, 1), 1);
+        check.due("ARBITER of x", x.count(4), 0);
+        check.due("y.offer", y.offer(0), 0);
+        check.due("FLITS of x that wait", x.look(0, 6), 1);
+        check.due("x.run(6)", x.run(6), 1);
+        check.due("CLOCK of y", y.count(0), 0);
+        check.due("FLITS of y that wait", y.look(0, 6), 1);
+    }
+
+    private void answersAreTheirOwn(CreditWire x, CreditWire y) {
+        check.due("y.take", y.take(0), -1);
+        check.due("x.take", x.take(0), 0);
+        check.due("y.answer(0)", y.answer(0), -1);
+        y.free();
+        check.due("y.run(17)", y.run(17), 1);
+        check.due("y.take", y.take(0), 0);
+        for (int i = 0; i < 4; i++) {
+            check.due("x.answer(" + i + ")", x.answer(i), i + 1);
+            check.due("y.answer(" + i + ")", y.answer(i), i < 2 ? 8 + i : -1);
+        }
     }
 }

@@ -244,23 +244,25 @@ final class ViewEdges {
 
     private void lookMost() {
         Tested x = Steps.linked(2, 1, 1, 16);
-        check.due("at first", x.look(0, 11), 0);
-        Steps.offer(x, 0, 8);
+        check.due("at first", x.look(1, 11), 0);
+        Steps.offer(x, 1, 8);
         x.run(5);
-        check.due("one that is drained as it comes counts", x.look(0, 11), 1);
+        check.due("one that is drained as it comes counts", x.look(1, 11), 1);
         x.mask(0);
-        Steps.offer(x, 0, 12);
+        Steps.offer(x, 1, 12);
         x.run(5);
-        check.due("three pile up", x.look(0, 11), 3);
+        check.due("three pile up", x.look(1, 11), 3);
         x.free();
         x.run(5);
-        check.due("the most stays", x.look(0, 11), 3);
+        Steps.offer(x, 1, 4);
+        x.run(5);
+        check.due("the most stays", x.look(1, 11), 3);
         x.mask(0);
-        Steps.offer(x, 0, 60);
-        Steps.offer(x, 0, 60);
+        Steps.offer(x, 1, 60);
+        Steps.offer(x, 1, 60);
         x.run(50);
-        check.due("a full BUFFER", x.look(0, 11), 16);
-        check.due("of the other", x.look(1, 11), 0);
+        check.due("a full BUFFER", x.look(1, 11), 16);
+        check.due("of the other", x.look(0, 11), 0);
         Tested y = Steps.linked(1, 1, 1, 3);
         for (int bits : new int[] {0, 0, 1, 1}) {
             y.mask(bits);
@@ -620,6 +622,11 @@ final class ViewEdges {
         // Drained in CYCLE 12, the CREDIT comes and is used in 13, nothing waits from then on.
         x.run(10);
         check.due("in all", x.count(10), 4);
+        Tested y = Steps.linked(2, 1, 1, 1);
+        y.mask(0);
+        Steps.offer(y, 0, 60);
+        Steps.offer(y, 1, 60);
+        check.dueText("many wait, in each CYCLE one more", Steps.counts(y, 10, 6), "0 0 1 2 3 4");
     }
 
     private void countTooMany() {
