@@ -2,64 +2,68 @@ import java.lang.reflect.Constructor;
 import java.lang.reflect.Field;
 import java.lang.reflect.Method;
 import java.lang.reflect.Modifier;
-import java.util.Arrays;
+import java.util.ArrayList;
+import java.util.List;
 import java.util.Set;
 import java.util.TreeSet;
 
 /** The public face: all of the document's members with their exceptions, and none beside them. */
 public final class FaceTest {
     private static final Check check = new Check("FaceTest");
+    private static final Document document = new Document();
 
-    private static final String[] FACE = {
-        "int NONE",
-        "CreditWire()",
-        "void link(int, int, int, int) IllegalArgumentException",
-        "int depth(int, int) IllegalArgumentException IllegalStateException",
-        "int weight(int, int) IllegalArgumentException",
-        "int arbiter(int) IllegalArgumentException",
-        "int mask(int) UnsupportedOperationException",
-        "int free()",
-        "int feed(int, long, long) IllegalArgumentException UnsupportedOperationException",
-        "int offer(int) IllegalArgumentException UnsupportedOperationException",
-        "int run(int) IllegalArgumentException",
-        "int take(int) IllegalArgumentException",
-        "int answer(int)",
-        "int look(int, int)",
-        "int packet(int, int)",
-        "int wire(int, int)",
-        "int buffer(int, int, int)",
-        "int back(int, int)",
-        "int count(int)",
-    };
-
-    public static void main(String[] args) {
+    public static void main(String[] args) throws IllegalAccessException {
         Class<?> c = CreditWire.class;
-        check.due("public and final", c.getModifiers() & (Modifier.PUBLIC | Modifier.FINAL),
-                Modifier.PUBLIC | Modifier.FINAL);
-        Set<String> due = new TreeSet<>(Arrays.asList(FACE));
-        Set<String> got = new TreeSet<>();
+        String face = document.section("The public face");
+        check.due("the document's class", face.contains("public final class CreditWire {") ? 1 : 0, 1);
+        check.dueText("the class", Modifier.toString(c.getModifiers()), "public final");
+        check.dueText("the class above it", c.getSuperclass().getName(), "java.lang.Object");
+        check.due("interfaces", c.getInterfaces().length, 0);
+        Set<String> due = new TreeSet<>();
+        for (String member : document.face()) {
+            due.add("public " + withoutNames(member));
+        }
+        check.due("members of the face", due.size(), 19);
+        check.dueText("the face", openMembers(c).toString(), due.toString());
+        promisesTellTheSame();
+        noHiddenMethodBearsAPublicName(c);
+        check.end();
+    }
+
+    /** The document's members twice: a promise has what the face has. */
+    private static void promisesTellTheSame() {
+        List<String> face = new ArrayList<>(document.face());
+        face.remove("static final int NONE = -1");
+        List<String> promised = new ArrayList<>();
+        for (Document.Promised one : document.promises()) {
+            promised.add(one.member());
+            check.due("number of a promise", one.number(), promised.size());
+        }
+        check.dueText("what the promises tell", promised.toString(), face.toString());
+    }
+
+    private static Set<String> openMembers(Class<?> c) throws IllegalAccessException {
+        Set<String> open = new TreeSet<>();
         for (Field f : c.getDeclaredFields()) {
             if (isOpen(f.getModifiers())) {
-                got.add(f.getType() + " " + f.getName());
-            }
-            if (Modifier.isStatic(f.getModifiers())) {
-                check.due("static " + f.getName() + " is final",
-                        Modifier.isFinal(f.getModifiers()) ? 1 : 0, 1);
+                open.add(Modifier.toString(f.getModifiers()) + " " + f.getType() + " " + f.getName()
+                        + " = " + f.get(null));
             }
         }
         for (Constructor<?> k : c.getDeclaredConstructors()) {
             if (isOpen(k.getModifiers())) {
-                got.add("CreditWire(" + names(k.getParameterTypes(), ", ") + ")");
+                open.add(Modifier.toString(k.getModifiers()) + " CreditWire("
+                        + names(k.getParameterTypes()) + ")" + thrown(k.getExceptionTypes()));
             }
         }
         for (Method m : c.getDeclaredMethods()) {
             if (isOpen(m.getModifiers())) {
-                got.add(told(m));
+                open.add(Modifier.toString(m.getModifiers()) + " " + m.getReturnType() + " "
+                        + m.getName() + "(" + names(m.getParameterTypes()) + ")"
+                        + thrown(m.getExceptionTypes()));
             }
         }
-        check.dueText("the face", got.toString(), due.toString());
-        noHiddenMethodBearsAPublicName(c);
-        check.end();
+        return open;
     }
 
     private static void noHiddenMethodBearsAPublicName(Class<?> c) {
@@ -86,16 +90,19 @@ public final class FaceTest {
         return !Modifier.isPrivate(modifiers);
     }
 
-    private static String told(Method m) {
-        String thrown = names(m.getExceptionTypes(), " ");
-        return m.getReturnType() + " " + m.getName() + "(" + names(m.getParameterTypes(), ", ") + ")"
-                + (thrown.isEmpty() ? "" : " " + thrown);
+    /** As in: int depth(int, int). */
+    private static String withoutNames(String member) {
+        return member.replaceAll("(int|long) \\w+(?=[,)])", "$1");
     }
 
-    private static String names(Class<?>[] some, String between) {
+    private static String thrown(Class<?>[] some) {
+        return some.length == 0 ? "" : " throws " + names(some);
+    }
+
+    private static String names(Class<?>[] some) {
         StringBuilder text = new StringBuilder();
         for (Class<?> one : some) {
-            text.append(text.length() == 0 ? "" : between).append(one.getSimpleName());
+            text.append(text.length() == 0 ? "" : ", ").append(one.getSimpleName());
         }
         return text.toString();
     }
