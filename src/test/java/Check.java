@@ -1,15 +1,31 @@
-/** Counts and prints the calls whose answer is not the one that is due. */
+/** Counts and prints the calls whose answer is not the one that is due; one without end counts too. */
 final class Check {
     private static final int MOST_SHOWN = 20;
+    // Far above what any test needs, on a slow machine too.
+    private static final int MOST_SECONDS = 300;
 
     private final String test;
     private int calls = 0;
     private int wrong = 0;
     private int shown = 0;
-    private String about = "";
+    private volatile String about = "";
 
     Check(String test) {
         this.test = test;
+        Thread watch = new Thread(this::refuseToWaitForEver);
+        watch.setDaemon(true);
+        watch.start();
+    }
+
+    /** A call that does not end fails the test, as a wrong answer does. */
+    private void refuseToWaitForEver() {
+        try {
+            Thread.sleep(MOST_SECONDS * 1000L);
+        } catch (InterruptedException e) {
+            return;
+        }
+        System.out.println(test + ": " + about + "a call does not end");
+        Runtime.getRuntime().halt(1);
     }
 
     /** What the answers from now on belong to; it is told with each that is wrong. */
